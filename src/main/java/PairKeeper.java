@@ -585,20 +585,27 @@ public final class PairKeeper {
         }
 
         private int taskOf(int worker) {
-            return inLimit(worker) ? tasks[worker] : NONE;
+            return worker >= 0 && worker < LIMIT ? tasks[worker] : NONE;
         }
 
         private int workerOf(int task) {
-            return inLimit(task) ? workers[task] : NONE;
+            return task >= 0 && task < LIMIT ? workers[task] : NONE;
         }
 
         private void join(int worker, int task) {
-            if (inLimit(worker) && inLimit(task)) {
-                loosenWorker(worker);
-                loosenTask(task);
-                tasks[worker] = task;
-                workers[task] = worker;
+            if (!inLimit(worker) || !inLimit(task)) {
+                return;
             }
+            int oldTask = tasks[worker];
+            int oldWorker = workers[task];
+            if (inLimit(oldTask)) {
+                workers[oldTask] = NONE;
+            }
+            if (inLimit(oldWorker)) {
+                tasks[oldWorker] = NONE;
+            }
+            tasks[worker] = task;
+            workers[task] = worker;
         }
 
         private void loosenWorker(int worker) {
@@ -1204,14 +1211,10 @@ public final class PairKeeper {
             return 0;
         }
 
-        private int taskAhead(int task) {
-            return inLimit(task) ? pairs.taskOf(from[task]) : NONE;
-        }
-
         /** Writes down the WAY that ends at a TASK, going back from there. */
         private void trace(int last) {
             int steps = 0;
-            for (int t = last; t != NONE && steps < LIMIT; t = taskAhead(t)) {
+            for (int t = last; inLimit(t) && steps < LIMIT; t = pairs.taskOf(from[t])) {
                 steps++;
             }
             length = 2 * steps;
@@ -1219,7 +1222,7 @@ public final class PairKeeper {
             for (int k = steps - 1; k >= 0 && inLimit(task); k--) {
                 way[2 * k] = from[task];
                 way[2 * k + 1] = task;
-                task = taskAhead(task);
+                task = pairs.taskOf(from[task]);
             }
         }
 
