@@ -284,6 +284,24 @@ public final class PromiseRuns {
             fault() => 28
             tell "workers 2;tasks 3;keep 0;fit 0 0;keep 5;" => -7
             fault() => 33
+            tell "workers 2;tasks 3;fit 2 0;x;" => -8
+            fault() => 22
+            tell "workers 2;tasks 3;fit 0 3;fit 5 5;" => -8
+            fault() => 24
+            tell "workers 2;tasks 3;fit 0 0 100;away worker 7;" => -8
+            fault() => 26
+            tell "workers 2;tasks 3;weight 5 0;x;" => -8
+            fault() => 25
+            tell "workers 2;tasks 3;weight 0 100;x;" => -8
+            fault() => 27
+            tell "workers 2;tasks 3;away worker 7;x;" => -8
+            fault() => 30
+            tell "workers 2;tasks 3;keep 7;x;" => -8
+            fault() => 23
+            tell "workers 2;tasks 13;x;" => -8
+            fault() => 16
+            tell "workers 13;tasks 13;x;" => -8
+            fault() => 8
             """);
         run(4, """
             tell "workers 2;tasks 3;pair 0 0;fit 0 0;" => -6
@@ -771,6 +789,11 @@ public final class PromiseRuns {
         run(27, """
             fewest(0) => -1
             fewest(1) => -1
+            add(0, 0, 3) => -1
+            fewest(0) => 1
+            fewest(1) => 0
+            is(0, 0, 0) => 0
+            fewest(0) => -1
             tell "workers 3;tasks 3;keep 0;fit 0 0;fit 0 1;fit 1 0;fit 1 1;fit 2 2;" => 0
             fewest(0) => 1
             fewest(1) => 202
@@ -921,6 +944,9 @@ public final class PromiseRuns {
             """);
         run(34, """
             tell "workers 3;tasks 3;keep 0;fit 0 0;fit 0 1;fit 1 0;fit 1 1;fit 2 2;away task 2;" => 0
+            is(0, 0, 0) => -1
+            pair(0, 0) => IAE
+            undo() => 0
             pair(0, 0) => 1
             pair(1, 1) => 2
             pair(0, 1) => 1
