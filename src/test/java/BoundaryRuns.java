@@ -371,6 +371,14 @@ public final class BoundaryRuns {
             tell "workers 2;tasks 2;keep 0;fit 1 0;pair 1 0;pair ^1 0;" => -6
             tell "workers 2;tasks 2;keep 0;fit 1 0;fit 0 1;pair 1 0;pair 0 1;" => 2
             """);
+        at("Terms 1", "\"away\" \"worker\" W | \"away\" \"task\" T", """
+            tell "workers 12;tasks 12;away worker 0;away worker 11;away task 11;away task 0;" => 0 | told(5) => 2046 | told(6) => 2046
+            tell "workers 1;tasks 1;away worker 0;away task 0;fit 0 0 4;" => 0 | told(5) => 0 | told(6) => 0 | told(7) => 0 | told(8) => 0 | cost(0, 0) => 4
+            tell "workers 12;tasks 1;away worker 11;" => 0 | told(5) => 2047
+            tell "workers 12;tasks 1;away task ^11;" => -8
+            tell "workers 1;tasks 12;away worker ^11;" => -8
+            tell "workers 1;tasks 12;away task 11;" => 0 | told(6) => 2047
+            """);
         at("Terms 1", "\"weight\" W V (0 to 99)", """
             tell "workers 2;tasks 1;weight 0 0;weight 1 99;" => 0 | weight(0, 1) => 0 | weight(1, 1) => 99
             tell "workers 2;tasks 1;weight 0 ^100;" => -8
@@ -561,6 +569,10 @@ public final class BoundaryRuns {
         String chain = """
             tell "workers 3;tasks 3;keep 0;fit 0 0;fit 1 0;fit 1 1;fit 2 1;fit 2 2;pair 1 0;pair 2 1;" => 2
             """;
+        at("Terms 2", "a row of unlike ones, WORKER, TASK, WORKER, .., TASK", """
+            tell "workers 3;tasks 3;keep 0;fit 0 0;fit 1 0;fit 1 1;fit 2 0;fit 2 1;pair 1 0;pair 2 1;" => 2 | way() => 0 | wayAt(0) => NSEE | settle(12) => 0
+            add(2, 2, 0) => -1 | way() => 6 | wayAt(2) => 1 | wayAt(4) => 2 | wayAt(5) => 2
+            """);
         at("Terms 2", "the first a FREE WORKER, the last a FREE TASK, all THERE", chain + """
             way() => 6 | is(1, 2, 0) => -1 | way() => 0 | undo() => 0
             is(0, 0, 0) => -1 | way() => 0 | undo() => 0
@@ -695,7 +707,8 @@ public final class BoundaryRuns {
             reached(0) => 1 | reached(1) => 0 | add(0, 0, 0) => -1 | reached(0) => 0 | reached(1) => 0
             is(1, 0, 0) => 0 | reached(0) => 1 | reached(1) => 0 | is(0, 0, 0) => -1 | reached(0) => 0
             tell "workers 4;tasks 4;fit 0 0;fit 1 0;fit 1 1;fit 2 1;fit 3 3;fit 3 2;" => 3 | reached(0) => 7 | reached(1) => 3
-            """ + full(12, 11) + "reached(0) => 4095 | reached(1) => 2047\n" + full(12, 12) + "reached(0) => 0 | reached(1) => 0");
+            """ + "tell \"workers 12;tasks 12;away task 11;\" => 0\n" + from(0, 10, "add(#, #, 0) => -1") + from(1, 11, "add(#, @, 0) => -1")
+            + "reached(0) => 4095 | reached(1) => 2047 | told(3) => 11 | drop(5, 4) => 0 | reached(0) => 4064 | reached(1) => 2016\n" + full(12, 11) + "reached(0) => 4095 | reached(1) => 2047\n" + full(12, 12) + "reached(0) => 0 | reached(1) => 0");
         at("Terms 3", "(as many together as NU; each FIT of two that are THERE has one of them)", """
             cover(0) => 0 | cover(1) => 0 | most() => 0
             tell "workers 4;tasks 4;fit 0 0;fit 1 0;fit 1 1;fit 2 1;fit 3 3;fit 3 2;" => 3 | cover(0) => 8 | cover(1) => 3
@@ -708,6 +721,11 @@ public final class BoundaryRuns {
     }
 
     private static void termsPairings() throws Exception {
+        at("Terms 3", "All of these are THERE", """
+            tell "workers 3;tasks 3;fit 0 0;fit 1 0;fit 2 0;fit 1 1;away worker 2;away task 1;" => 1
+            reached(0) => 3 | reached(1) => 1 | cover(0) => 0 | cover(1) => 1 | hall(1) => 3 | is(1, 0, 0) => 0 | reached(0) => 3 | reached(1) => 0 | cover(0) => 0 | cover(1) => 0
+            is(0, 0, 0) => -1 | is(0, 1, 0) => -1 | reached(0) => 0 | cover(0) => 0 | most() => 0
+            """);
         at("Terms 3", "A PAIRING: any set of FITS that could be PAIRS; it is MOST, if it has NU", """
             many() => 1 | add(0, 0, 0) => -1 | many() => 1 | is(0, 0, 0) => 0 | many() => 1 | most() => 0
             tell "workers 1;tasks 2;keep 0;fit 0 0;fit 0 1;" => 0 | many() => 2
@@ -772,6 +790,10 @@ public final class BoundaryRuns {
             tell "workers 2;tasks 2;fit 0 0;fit 0 1;fit 1 0;weight 0 9;" => 2 | chosen(0) => 3 | chosen(1) => 10
             tell "workers 2;tasks 2;fit 0 0;fit 1 0;weight 1 0;away worker 0;" => 1 | chosen(0) => 2 | chosen(1) => 0
             """);
+        at("Terms 3", "(No PAIRING has WORKERS of greater WEIGHTS together: WORTH.)", """
+            tell "workers 3;tasks 2;fit 0 0;fit 0 1;fit 1 0;fit 2 1;weight 0 9;weight 1 5;weight 2 6;" => 2 | chosen(0) => 5 | chosen(1) => 15
+            tell "workers 3;tasks 3;fit 0 0;fit 1 0;fit 2 0;fit 2 1;weight 0 9;weight 1 8;weight 2 99;" => 2 | chosen(0) => 5 | chosen(1) => 108
+            """);
         at("Terms 3", "FITS of two that are THERE, in order (of WORKERS, then TASKS), get a ROUND each (from 0 on)", """
             rounds() => 0 | round(0, 0) => -1 | add(0, 0, 0) => -1 | rounds() => 1 | round(0, 0) => 0 | is(0, 0, 0) => 0 | rounds() => 0 | round(0, 0) => -1
             tell "workers 1;tasks 12;fit 0 11;fit 0 5;fit 0 0;" => 1 | rounds() => 3 | round(0, 0) => 0 | round(0, 5) => 1 | round(0, 11) => 2
@@ -795,11 +817,20 @@ public final class BoundaryRuns {
             tell "workers 4;tasks 3;keep 0;fit 0 2;fit 1 0;fit 2 2;fit 3 0;" => 0 | rounds() => 2
             round(0, 2) => 1 | round(1, 0) => 1 | round(2, 2) => 0 | round(3, 0) => 0
             """);
+        at("Terms 3", "(So two of one WORKER, one TASK never have the same", full(2, 2) + """
+            round(0, 0) => 1 | round(0, 1) => 0 | round(1, 0) => 0 | round(1, 1) => 1 | rounds() => 2
+            """);
         at("Terms 3", "there are as many ROUNDS as the most FITS that any has", full(12, 12) + "rounds() => 12\n" + full(1, 12) + "rounds() => 12\n"
             + full(12, 1) + "rounds() => 12 | round(0, 0) => 1 | round(10, 0) => 11 | round(11, 0) => 0\n" + full(3, 5) + "rounds() => 5");
     }
 
     private static void termsTrade() throws Exception {
+        at("Terms 3", "of all two WORKERS v, w (v less than w) that are paired, v with s, w with t, and have FITS v t and w s", """
+            add(0, 0, 9) => -1 | trade() => 0
+            tell "workers 2;tasks 2;keep 0;fit 0 0 9;fit 0 1;fit 1 0;fit 1 1 9;" => 0 | trade() => 0 | pair(0, 0) => 1 | trade() => 0 | pair(1, 1) => 2
+            drop(0, 1) => 0 | trade() => 0 | undo() => 2 | drop(1, 0) => 0 | trade() => 0 | undo() => 2 | trade() => 18 | partner(0, 0) => 1 | partner(0, 1) => 0
+            is(0, 1, 0) => 0 | trade() => 0
+            """);
         at("Terms 3", "of alike ones the first v, then w", """
             tell "workers 4;tasks 4;keep 0;fit 0 0 5;fit 1 1 5;fit 2 2 5;fit 3 3 5;fit 2 3;fit 3 2;fit 1 2;fit 2 1;pair 0 0;pair 1 1;pair 2 2;pair 3 3;" => 4
             trade() => 10 | partner(0, 1) => 2 | partner(0, 2) => 1 | partner(0, 3) => 3
@@ -1051,7 +1082,9 @@ public final class BoundaryRuns {
             tell "workers 5;tasks 5;keep 0;fit 0 0;fit 1 0;fit 2 1;fit 2 2;fit 3 3;fit 4 3;fit 3 4;away worker 4;away task 4;" => 0
             of(0, 0, 2) => 1 | of(0, 1, 2) => 1 | of(1, 0, 2) => 1 | of(0, 2, 2) => 2 | of(1, 1, 2) => 2 | of(1, 2, 2) => 2
             of(0, 3, 2) => 3 | of(1, 3, 2) => 3 | of(0, 4, 2) => 0 | of(1, 4, 2) => 0
-            """);
+            tell "workers 1;tasks 2;fit 0 0;fit 0 1;" => 1 | of(0, 0, 2) => 2 | is(1, 1, 0) => -1 | of(0, 0, 2) => 3 | of(1, 0, 2) => 3 | of(1, 1, 2) => 0
+            """ + "tell \"workers 12;tasks 12;away worker 11;\" => 0\n" + from(0, 10, "add(#, #, 0) => -1") + from(1, 11, "add(@, #, 0) => -1")
+            + from(0, 10, "of(0, #, 2) => 2") + from(0, 11, "of(1, #, 2) => 2") + "of(0, 11, 2) => 0");
     }
 
     private static void fit() throws Exception {
