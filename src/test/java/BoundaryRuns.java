@@ -670,6 +670,8 @@ public final class BoundaryRuns {
             tell "workers 2;tasks 3;fit 0 2;fit 0 1;fit 1 1;fit 1 2;" => 2 | phased(0) => 1 | phased(1) => 2
             tell "workers 3;tasks 4;fit 0 0;fit 0 3;fit 1 1;fit 1 2;fit 2 1;fit 2 0;" => 3 | phases(0) => 2 | phases(3) => 4
             phased(2) => 0 | phased(0) => 3 | phased(1) => 1
+            tell "workers 3;tasks 3;fit 0 0;fit 0 1;fit 1 1;fit 1 2;fit 2 0;fit 2 1;" => 3
+            phases(0) => 2 | phases(1) => 3 | phases(2) => 2 | phases(3) => 4 | phased(0) => 0 | phased(1) => 2 | phased(2) => 1
             """);
         at("Terms 2", "(if that has the next LAYER)", """
             tell "workers 3;tasks 4;fit 0 0;fit 0 1;fit 0 2;fit 1 1;fit 1 3;fit 2 0;" => 3
@@ -816,6 +818,9 @@ public final class BoundaryRuns {
             round(0, 0) => 0 | round(0, 1) => 1 | round(1, 1) => 0 | round(1, 2) => 1 | round(2, 0) => 1 | round(3, 2) => 0
             tell "workers 4;tasks 3;keep 0;fit 0 2;fit 1 0;fit 2 2;fit 3 0;" => 0 | rounds() => 2
             round(0, 2) => 1 | round(1, 0) => 1 | round(2, 2) => 0 | round(3, 0) => 0
+            new
+            tell "workers 4;tasks 3;keep 0;fit 0 1;fit 0 2;fit 1 0;fit 2 1;fit 3 0;" => 0 | rounds() => 2
+            round(0, 1) => 1 | round(0, 2) => 0 | round(1, 0) => 1 | round(2, 1) => 0 | round(3, 0) => 0
             """);
         at("Terms 3", "(So two of one WORKER, one TASK never have the same", full(2, 2) + """
             round(0, 0) => 1 | round(0, 1) => 0 | round(1, 0) => 0 | round(1, 1) => 1 | rounds() => 2
@@ -1132,6 +1137,10 @@ public final class BoundaryRuns {
         at("Promise 23", "CHEAP: 0 its COST, 1 how many MOST PAIRINGS have that COST (held at 1,000,000,000)", """
             cheap(0) => 0 | cheap(1) => 1 | cheap(2) => IAE | cheap(-1) => IAE | add(0, 0, 99) => -1 | cheap(0) => 99 | cheap(1) => 1 | is(0, 0, 0) => 0 | cheap(0) => 0 | cheap(1) => 1
             tell "workers 2;tasks 2;fit 0 0 5;fit 0 1 4;fit 1 0 6;fit 1 1 5;" => 2 | cheap(0) => 10 | cheap(1) => 2 | add(1, 1, 4) => 5 | cheap(0) => 9 | cheap(1) => 1
+            tell "workers 2;tasks 2;fit 0 0;fit 0 1;fit 1 0;fit 1 1;" => 2 | cheap(0) => 0 | cheap(1) => 2 | cheapest(0) => 0
+            tell "workers 2;tasks 2;fit 0 0 50;fit 1 0 9;fit 1 1 60;" => 2 | cheap(0) => 110 | cheap(1) => 1 | cheapest(0) => 0 | cheapest(1) => 1
+            tell "workers 2;tasks 2;fit 0 0;fit 0 1;fit 1 0;fit 1 1;" => 2 | cheap(0) => 0
+            tell "workers 2;tasks 2;fit 0 1 50;fit 1 1 9;fit 1 0 60;" => 2 | cheap(0) => 110 | cheap(1) => 1 | cheapest(0) => 1 | cheapest(1) => 0
             tell "workers 1;tasks 3;fit 0 0 4;fit 0 1 4;fit 0 2 5;" => 1 | cheap(0) => 4 | cheap(1) => 2 | many() => 3
             tell "workers 2;tasks 3;fit 0 0 0;fit 0 1 1;fit 1 0 1;fit 1 2 2;" => 2 | cheap(0) => 2 | cheap(1) => 2 | many() => 3 | cheapest(0) => 0 | cheapest(1) => 2
             """ + full(12, 12) + "cheap(0) => 0 | cheap(1) => 479001600\n");
