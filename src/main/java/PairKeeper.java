@@ -1192,7 +1192,7 @@ public final class PairKeeper {
             for (int k = 0; k < waiting && k < LIMIT; k++) {
                 int now = queue[k];
                 int unseen = row(now) & ~seen;
-                for (int t = 0; t < tasks && unseen != 0; t++) {
+                for (int t = 0; t < LIMIT && unseen != 0; t++) {
                     if (has(unseen, t)) {
                         seen |= bit(t);
                         from[t] = now;
@@ -1603,7 +1603,7 @@ public final class PairKeeper {
 
         private void run(Book book, Search search, int nu) {
             int sets = bit(Math.min(LIMIT, search.tasks));
-            for (int set = 0; set < sets; set++) {
+            for (int set = 0; set < sets && set < SETS; set++) {
                 ways[set] = 0;
             }
             ways[0] = 1;

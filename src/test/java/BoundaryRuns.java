@@ -2,6 +2,7 @@ import java.lang.reflect.InvocationTargetException;
 import java.lang.reflect.Method;
 import java.nio.file.Files;
 import java.nio.file.Path;
+import java.util.Arrays;
 import java.util.Map;
 import java.util.NoSuchElementException;
 import java.util.TreeMap;
@@ -20,6 +21,8 @@ public final class BoundaryRuns {
     private static final String DOCUMENT = "../shared/DOC.md";
     private static final Map<String, Integer> tests = new TreeMap<>();
     private static String document;
+    /** Which signs of the document a test quotes. */
+    private static boolean[] quoted;
     private static int asked = 0;
     private static int wrong = 0;
     /** Calls on the object of now. */
@@ -27,7 +30,9 @@ public final class BoundaryRuns {
 
     public static void main(String[] args) throws Exception {
         document = Files.readString(Path.of(DOCUMENT));
+        quoted = new boolean[document.length()];
         whatItIs();
+        theFace();
         termsWhoIsThere();
         termsTape();
         termsSigns();
@@ -63,6 +68,7 @@ public final class BoundaryRuns {
         undo();
         printAndStatus();
         allHaveTests();
+        allIsQuoted();
         System.out.println(tests.values().stream().mapToInt(n -> n).sum() + " sentences, " + asked + " answers asked, " + wrong + " wrong");
         if (wrong != 0) {
             System.exit(1);
@@ -74,10 +80,7 @@ public final class BoundaryRuns {
     private static void at(String where, String sentence, String rows) throws Exception {
         int wrongAhead = wrong;
         int askedAhead = asked;
-        if (!section(where).contains(sentence)) {
-            wrong++;
-            System.out.println("  the document has no such sentence in " + where);
-        }
+        quote(where, sentence);
         PairKeeper x = new PairKeeper();
         calls = 0;
         int n = 0;
@@ -113,17 +116,40 @@ public final class BoundaryRuns {
         }
     }
 
-    /** The part of the document that a test is about. */
-    private static String section(String where) {
+    /** Tests that the document has the sentence in that part, and marks it there. */
+    private static void quote(String where, String sentence) {
         String begin = where.startsWith("Terms") ? "==== " + where.substring(6) + "." : "\n## " + where;
         int from = document.indexOf(begin + (where.startsWith("Promise") ? ":" : ""));
-        if (from < 0) {
-            return "";
+        int place = from < 0 ? -1 : section(from).indexOf(sentence);
+        if (place < 0) {
+            wrong++;
+            System.out.println("  the document has no such sentence in " + where + ": " + sentence);
+            return;
         }
+        Arrays.fill(quoted, from + place, from + place + sentence.length(), true);
+    }
+
+    /** The part of the document that begins at a place. */
+    private static String section(int from) {
         int heading = document.indexOf("\n## ", from + 1);
         int term = document.indexOf("\n==== ", from + 1);
         int to = heading < 0 ? document.length() : heading;
         return document.substring(from, term > 0 && term < to ? term : to);
+    }
+
+    /** What of Terms and Promises no test quotes: headings, faces and names ("TRADE:") alone may be left. */
+    private static void allIsQuoted() {
+        StringBuilder left = new StringBuilder();
+        for (int k = document.indexOf("\n## Terms"); k < document.indexOf("\n## Not promised"); k++) {
+            left.append(quoted[k] ? '\0' : document.charAt(k));
+        }
+        String plain = left.toString().replaceAll("(?m)^## .*|^```.*|^==== \\d\\.|^`[^`]*`:", "\0");
+        for (String piece : plain.split("[\0\n]+")) {
+            if (piece.replaceAll("[^A-Za-z]", "").length() > 12) {
+                wrong++;
+                System.out.println("  no test quotes: " + piece.strip());
+            }
+        }
     }
 
     private static void allHaveTests() {
@@ -271,6 +297,11 @@ public final class BoundaryRuns {
     private static void whatItIs() throws Exception {
         at("What it is", "An object is used for at most 512 calls after it has been made",
             from(1, 500, "told(-#) => IAE") + from(2, 12, "weight(0, #) => @") + "status(1) => 500");
+    }
+
+    private static void theFace() throws Exception {
+        at("The public face", "public static final int NONE = -1", "");
+        compare(1, "NONE", "" + PairKeeper.class.getField("NONE").get(null), "-1");
     }
 
     // ---- Terms 1
@@ -666,6 +697,27 @@ public final class BoundaryRuns {
             tell "workers 2;tasks 2;fit 0 0;fit 0 1;fit 1 0;" => 2 | phases(0) => 2 | phases(1) => 2 | phases(2) => 1 | phases(3) => 4
             phased(0) => 1 | phased(1) => 0
             """);
+        // in the second phase: worker 2, task 0, on to worker 0, task 2; without that fit task 0 is in vain
+        at("Terms 2", "Then from each FREE WORKER, in order, a WAY is sought, deep first", """
+            tell "workers 2;tasks 1;fit 0 0;fit 1 0;" => 1 | phased(0) => 0 | phased(1) => -1
+            tell "workers 3;tasks 4;fit 0 0;fit 0 2;fit 1 0;fit 1 1;fit 1 3;fit 2 0;fit 2 1;" => 3
+            phases(0) => 2 | phases(1) => 3 | phases(2) => 2 | phases(3) => 4 | phased(0) => 2 | phased(1) => 1 | phased(2) => 0
+            drop(0, 2) => 0 | phases(0) => 2 | phases(3) => 4 | phased(0) => 0 | phased(1) => 3 | phased(2) => 1
+            """);
+        at("Terms 2", "of such a TASK, if it is FREE, the WAY is found, else on from the WORKER with which it is paired", """
+            tell "workers 1;tasks 2;fit 0 1;" => 1 | phased(0) => 1 | phases(3) => 2
+            tell "workers 3;tasks 3;fit 0 0;fit 0 1;fit 1 0;fit 2 2;" => 3 | phases(0) => 2 | phases(1) => 3 | phases(2) => 2 | phases(3) => 4
+            phased(0) => 1 | phased(1) => 0 | phased(2) => 2
+            tell "workers 4;tasks 4;fit 0 0;fit 0 1;fit 1 1;fit 1 2;fit 2 2;fit 2 3;fit 3 0;" => 4
+            phases(0) => 2 | phases(2) => 3 | phases(3) => 8 | phased(0) => 1 | phased(1) => 2 | phased(2) => 3 | phased(3) => 0
+            """);
+        at("Terms 2", "a WAY that is found is DONE at once", """
+            tell "workers 3;tasks 3;fit 0 0;fit 1 0;fit 1 1;fit 2 1;fit 2 2;" => 3 | phases(0) => 1 | phases(1) => 3 | phases(2) => 3
+            phased(0) => 0 | phased(1) => 1 | phased(2) => 2
+            tell "workers 4;tasks 4;fit 0 0;fit 0 2;fit 1 1;fit 1 3;fit 2 0;fit 2 1;fit 3 0;fit 3 1;" => 4
+            phases(0) => 2 | phases(1) => 4 | phases(2) => 2 | phases(3) => 4
+            phased(0) => 2 | phased(1) => 3 | phased(2) => 0 | phased(3) => 1
+            """);
         at("Terms 2", "of a WORKER the TASKS of the next LAYER in order by FITS", """
             tell "workers 2;tasks 3;fit 0 2;fit 0 1;fit 1 1;fit 1 2;" => 2 | phased(0) => 1 | phased(1) => 2
             tell "workers 3;tasks 4;fit 0 0;fit 0 3;fit 1 1;fit 1 2;fit 2 1;fit 2 0;" => 3 | phases(0) => 2 | phases(3) => 4
@@ -705,6 +757,15 @@ public final class BoundaryRuns {
     private static void termsMost() throws Exception {
         at("Terms 3", "NU: how many PAIRS M has", "most() => 0\n" + full(12, 12) + "most() => 12 | told(3) => 0\n" + full(12, 1) + "most() => 1\n"
             + full(1, 12) + "most() => 1");
+        at("Terms 3", "(PAIRS as they are, DONE to MOST in thought by THE WAY again and again: M.)", """
+            tell "workers 2;tasks 2;keep 0;fit 0 0;fit 0 1;fit 1 0;pair 0 0;" => 1 | most() => 2 | reached(0) => 0 | cover(0) => 3 | hall(0) => 0 | of(0, 1, 2) => 3
+            told(3) => 1 | partner(0, 0) => 0 | partner(0, 1) => -1 | way() => 4 | told(10) => 0 | reached(1) => 0
+            """);
+        at("Terms 3", "COVER: WORKERS that are THERE and not REACHED, and REACHED TASKS", """
+            cover(0) => 0 | cover(1) => 0 | add(0, 0, 0) => -1 | cover(0) => 1 | cover(1) => 0
+            tell "workers 4;tasks 4;fit 0 0;fit 1 0;fit 2 1;fit 2 2;away worker 3;" => 2 | reached(0) => 3 | reached(1) => 1 | cover(0) => 4 | cover(1) => 1
+            is(0, 0, 0) => 0 | cover(0) => 6 | cover(1) => 0 | is(0, 3, 1) => -1 | cover(0) => 6 | cover(1) => 0
+            """);
         at("Terms 3", "REACHED from FREE WORKERS of M: those, all TASKS that are THERE and FITS of REACHED WORKERS, all WORKERS paired by M with REACHED TASKS", """
             reached(0) => 1 | reached(1) => 0 | add(0, 0, 0) => -1 | reached(0) => 0 | reached(1) => 0
             is(1, 0, 0) => 0 | reached(0) => 1 | reached(1) => 0 | is(0, 0, 0) => -1 | reached(0) => 0
@@ -756,6 +817,11 @@ public final class BoundaryRuns {
     }
 
     private static void termsCosts() throws Exception {
+        at("Terms 3", "COST of a PAIRING: that of its FITS together", """
+            cheap(0) => 0 | told(9) => 0
+            tell "workers 3;tasks 3;keep 0;fit 0 0 7;fit 1 1 11;fit 2 2 13;" => 0 | cheap(0) => 31 | told(9) => 0
+            settle(2) => 2 | told(9) => 18 | cheap(0) => 31 | settle(1) => 1 | told(9) => 31
+            """ + "tell \"workers 12;tasks 12;\" => 0\n" + from(0, 11, "add(#, #, 99) => -1") + "cheap(0) => 1188 | told(9) => 1188");
         at("Terms 3", "CHEAP: of all MOST PAIRINGS one of least COST", """
             cheap(0) => 0 | cheapest(0) => -1
             tell "workers 2;tasks 2;fit 0 0;fit 0 1 99;fit 1 0 99;" => 2 | cheap(0) => 198 | cheapest(0) => 1 | cheapest(1) => 0
@@ -781,6 +847,11 @@ public final class BoundaryRuns {
     }
 
     private static void termsChosenAndRounds() throws Exception {
+        at("Terms 3", "CHOSEN: WORKERS that are THERE", """
+            add(0, 0, 0) => -1 | chosen(0) => 1 | is(0, 0, 0) => 0 | chosen(0) => 0 | chosen(1) => 0
+            tell "workers 3;tasks 3;fit 0 0;fit 1 1;fit 2 2;away worker 1;weight 1 99;" => 2 | chosen(0) => 5 | chosen(1) => 2
+            is(0, 1, 1) => -1 | chosen(0) => 7 | chosen(1) => 101 | is(0, 0, 0) => 0 | chosen(0) => 6
+            """);
         at("Terms 3", "gone through by WEIGHTS, the greatest first, of alike ones by numbers", """
             tell "workers 3;tasks 1;fit 0 0;fit 1 0;fit 2 0;" => 1 | chosen(0) => 1 | chosen(1) => 1
             weight(2, 2) => 1 | chosen(0) => 4 | chosen(1) => 2 | weight(1, 2) => 1 | chosen(0) => 2 | weight(0, 0) => 1 | chosen(0) => 2
@@ -801,8 +872,19 @@ public final class BoundaryRuns {
             tell "workers 1;tasks 12;fit 0 11;fit 0 5;fit 0 0;" => 1 | rounds() => 3 | round(0, 0) => 0 | round(0, 5) => 1 | round(0, 11) => 2
             is(1, 0, 0) => 0 | rounds() => 2 | round(0, 0) => -1 | round(0, 5) => 0
             """);
+        // 2-0: a is 0, b is 2, as the task has 1 and 0; so 1-0 changes to 2
+        at("Terms 3", "a is the least ROUND that none of the WORKER's FITS has yet, b likewise of the TASK", """
+            tell "workers 3;tasks 1;fit 0 0;fit 1 0;fit 2 0;" => 1 | round(0, 0) => 1 | round(1, 0) => 2 | round(2, 0) => 0 | rounds() => 3
+            tell "workers 1;tasks 3;fit 0 0;fit 0 1;fit 0 2;" => 1 | round(0, 0) => 0 | round(0, 1) => 1 | round(0, 2) => 2
+            tell "workers 3;tasks 3;keep 0;fit 0 0;fit 0 2;fit 1 2;fit 2 0;fit 2 1;" => 0 | round(0, 0) => 1 | round(0, 2) => 0
+            round(1, 2) => 1 | round(2, 0) => 0 | round(2, 1) => 1 | rounds() => 2
+            """);
         at("Terms 3", "If none of the TASK's has a, it gets a", """
             tell "workers 2;tasks 2;fit 0 0;fit 0 1;fit 1 1;" => 2 | round(0, 0) => 0 | round(0, 1) => 1 | round(1, 1) => 0 | rounds() => 2
+            """);
+        at("Terms 3", "Else first FITS change their ROUNDS", """
+            tell "workers 2;tasks 1;fit 0 0;" => 1 | round(0, 0) => 0 | add(1, 0, 0) => -1 | round(0, 0) => 1 | round(1, 0) => 0
+            drop(0, 0) => 0 | round(1, 0) => 0 | round(0, 0) => -1 | rounds() => 1
             """);
         // behind 0-0: 1-0 has a 0 (its worker has none), b 1; the task's one of round 0 becomes 1
         at("Terms 3", "the TASK's one of ROUND a, of its WORKER that of ROUND b, of the TASK of that the one of a, and so on, as far as there are such: a becomes b, b becomes a; then it gets a", """
@@ -835,6 +917,12 @@ public final class BoundaryRuns {
             tell "workers 2;tasks 2;keep 0;fit 0 0 9;fit 0 1;fit 1 0;fit 1 1 9;" => 0 | trade() => 0 | pair(0, 0) => 1 | trade() => 0 | pair(1, 1) => 2
             drop(0, 1) => 0 | trade() => 0 | undo() => 2 | drop(1, 0) => 0 | trade() => 0 | undo() => 2 | trade() => 18 | partner(0, 0) => 1 | partner(0, 1) => 0
             is(0, 1, 0) => 0 | trade() => 0
+            """);
+        at("Terms 3", "that by which COST of the PAIRS is least, if these two change their TASKS", """
+            tell "workers 3;tasks 3;keep 0;fit 0 0 9;fit 1 1 9;fit 2 2 9;fit 0 1 5;fit 1 0 5;fit 1 2 1;fit 2 1 1;pair 0 0;pair 1 1;pair 2 2;" => 3
+            trade() => 16 | told(9) => 11 | partner(0, 0) => 0 | partner(0, 1) => 2 | partner(0, 2) => 1 | told(3) => 3 | trade() => 0
+            tell "workers 3;tasks 3;keep 0;fit 0 0 9;fit 1 1 9;fit 2 2 9;fit 0 1 5;fit 1 0 5;fit 0 2 4;fit 2 0 4;pair 0 0;pair 1 1;pair 2 2;" => 3
+            trade() => 10 | told(9) => 17 | partner(0, 0) => 2 | partner(0, 1) => 1 | partner(0, 2) => 0
             """);
         at("Terms 3", "of alike ones the first v, then w", """
             tell "workers 4;tasks 4;keep 0;fit 0 0 5;fit 1 1 5;fit 2 2 5;fit 3 3 5;fit 2 3;fit 3 2;fit 1 2;fit 2 1;pair 0 0;pair 1 1;pair 2 2;pair 3 3;" => 4
@@ -977,6 +1065,11 @@ public final class BoundaryRuns {
     // ---- Promises 6 to 13
 
     private static void looks() throws Exception {
+        at("Promise 6", "With whom a WORKER (side 0), a TASK (1) is paired", """
+            add(0, 0, 0) => -1 | partner(0, 0) => 0 | partner(1, 0) => 0
+            tell "workers 12;tasks 12;fit 11 0;fit 0 11;fit 3 7;" => 3 | partner(0, 11) => 0 | partner(1, 0) => 11 | partner(0, 0) => 11
+            partner(1, 11) => 0 | partner(0, 3) => 7 | partner(1, 7) => 3
+            """);
         at("Promise 6", "NONE: with none", NET + """
             partner(0, 0) => 1 | partner(1, 1) => 0 | partner(0, 1) => -1 | partner(0, 2) => -1 | partner(1, 0) => -1 | partner(1, 2) => -1
             part(0) => 1 | partner(0, 0) => -1 | partner(1, 1) => -1
@@ -1081,6 +1174,15 @@ public final class BoundaryRuns {
             is(0, 2, 1) => -1 | of(0, 0, 0) => 0 | of(0, 1, 0) => 0 | of(0, 2, 0) => 0 | of(0, 0, 1) => 2 | of(1, 0, 0) => 1 | of(1, 1, 1) => 1 | told(3) => 2
             """ + full(12, 12) + "of(0, 11, 0) => 1 | of(1, 11, 0) => 1 | of(0, 11, 1) => 11 | of(1, 0, 1) => 11\n"
             + full(12, 11) + "of(0, 11, 0) => 0 | of(1, 10, 0) => 1 | of(0, 11, 1) => 11 | of(1, 0, 1) => 10");
+        at("Promise 17", "Of a WORKER (side 0), a TASK (1)", """
+            tell "workers 2;tasks 3;fit 0 0;fit 1 0;fit 1 1;fit 1 2;" => 2 | of(0, 0, 0) => 1 | of(1, 0, 0) => 1 | of(0, 1, 0) => 1 | of(1, 1, 0) => 0 | of(1, 2, 0) => 0
+            of(0, 2, 0) => NSEE | of(1, 3, 0) => NSEE | of(2, 0, 0) => NSEE | of(-1, 0, 0) => NSEE
+            """);
+        at("Promise 17", "2 in which part it is", """
+            of(0, 0, 2) => 1 | of(1, 0, 2) => 2 | add(0, 0, 0) => -1 | of(0, 0, 2) => 3 | of(1, 0, 2) => 3 | of(0, 0, 3) => IAE | of(0, 0, -1) => IAE
+            tell "workers 3;tasks 3;keep 0;fit 0 0;fit 1 0;fit 2 1;fit 2 2;" => 0 | of(0, 0, 2) => 1 | of(0, 1, 2) => 1 | of(1, 0, 2) => 1
+            of(0, 2, 2) => 2 | of(1, 1, 2) => 2 | of(1, 2, 2) => 2
+            """);
         at("Promise 17", "(0 AWAY, 1 it is REACHED from FREE WORKERS, 2 likewise from FREE TASKS of M (the sides changed), 3 neither)", """
             of(0, 0, 2) => 1 | of(1, 0, 2) => 2 | add(0, 0, 0) => -1 | of(0, 0, 2) => 3 | of(1, 0, 2) => 3
             is(0, 0, 0) => 0 | of(0, 0, 2) => 0 | of(1, 0, 2) => 2 | is(1, 0, 0) => -1 | of(1, 0, 2) => 0 | is(0, 0, 1) => -1 | of(0, 0, 2) => 1 | of(1, 0, 2) => 0
@@ -1167,6 +1269,11 @@ public final class BoundaryRuns {
             more(1) => 0 | is(0, 0, 0) => -1 | more(1) => -1 | is(0, 0, 1) => -1 | add(0, 0, 0) => -1 | more(1) => -1
             tell "workers 12;tasks 12;" => 0 | more(1) => 0
             """ + from(0, 10, "add(#, #, 0) => -1") + "more(0) => 1 | more(1) => 1111 | is(0, 11, 0) => -1 | more(1) => -1");
+        at("Promise 27", "The fewest FITS without which (all together) NU would be less", """
+            add(0, 0, 0) => -1 | fewest(0) => 1 | fewest(1) => 0
+            tell "workers 2;tasks 2;fit 0 0;fit 0 1;fit 1 0;fit 1 1;" => 2 | fewest(0) => 2 | fewest(1) => 0 | drop(0, 0) => 0 | fewest(0) => 1 | fewest(1) => 1
+            tell "workers 2;tasks 3;away task 0;fit 0 0;fit 0 1;fit 0 2;fit 1 0;fit 1 1;fit 1 2;" => 2 | fewest(0) => 2 | fewest(1) => 1
+            """);
         at("Promise 27", "0 how many (1 and 2 are tried; NONE: by neither, or NU is 0)", """
             fewest(0) => -1 | fewest(2) => IAE | fewest(-1) => IAE | add(0, 0, 0) => -1 | fewest(0) => 1 | is(0, 0, 0) => 0 | fewest(0) => -1
             tell "workers 1;tasks 3;fit 0 0;fit 0 1;" => 1 | fewest(0) => 2 | add(0, 2, 0) => -1 | fewest(0) => -1 | is(1, 1, 0) => -1 | fewest(0) => 2
@@ -1220,6 +1327,10 @@ public final class BoundaryRuns {
     }
 
     private static void is() throws Exception {
+        at("Promise 33", "A WORKER (side 0), a TASK (1)", """
+            tell "workers 3;tasks 4;keep 0;" => 0 | is(0, 2, 0) => -1 | told(5) => 3 | told(6) => 15 | is(1, 3, 0) => -1 | told(5) => 3 | told(6) => 7
+            is(0, 3, 0) => NSEE | is(1, 4, 0) => NSEE | is(2, 0, 0) => NSEE | is(-1, 0, 0) => NSEE | is(1, 2, 0) => -1 | told(6) => 3 | is(0, 2, 1) => -1 | told(5) => 7
+            """);
         at("Promise 33", "goes AWAY (there 0; its PAIR is none any more), comes again (1): with whom it was paired (NONE)", """
             is(0, 0, 0) => -1 | told(5) => 0 | is(0, 0, 1) => -1 | told(5) => 1 | is(1, 0, 0) => -1 | told(6) => 0 | is(1, 0, 1) => -1 | told(6) => 1
             tell "workers 12;tasks 12;keep 0;fit 11 3 5;fit 2 11;pair 11 3;pair 2 11;" => 2
@@ -1317,6 +1428,11 @@ public final class BoundaryRuns {
     }
 
     private static void printAndStatus() throws Exception {
+        at("Promise 41", "From 0 on, of WORKERS in order", """
+            print() => 0
+            tell "workers 3;tasks 12;fit 0 11;fit 1 4;fit 2 0;" => 3 | print() => 2094 | is(0, 2, 0) => 0 | print() => 2093 | is(0, 0, 0) => 11 | print() => 65
+            tell "workers 3;tasks 12;fit 0 0;fit 1 4;fit 2 11;" => 3 | print() => 246
+            """);
         at("Promise 41", "13 times what there is, and the TASK with which it is paired, and 1 (0: with none)", """
             print() => 0 | add(0, 0, 0) => -1 | print() => 1 | is(0, 0, 0) => 0 | print() => 0
             tell "workers 2;tasks 12;fit 0 11;fit 1 0;" => 2 | print() => 157 | drop(0, 11) => 0 | print() => 1
